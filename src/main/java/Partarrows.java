@@ -44,9 +44,9 @@ public final class Partarrows {
   private static final int TABLE = 6;
   private static final int JUST = 7;
 
-  // The numbers with which isSound() and digest() ask every arrow.
+  // The numbers with which isSound() and digest() ask the arrows; those put by "or" get one alone.
   private static final int[] PROBES = {-1, 0, 6};
-  private static final int LAST_PROBE = 6;
+  private static final int EITHER_PROBE = 6;
 
   private final long[] boxes = new long[BOXES];
   private final long[] table = new long[KEYS];
@@ -581,7 +581,7 @@ public final class Partarrows {
   private boolean isEitherJoined(Arrow first, Arrow second, Arrow third) {
     Arrow lastPair = new Otherwise(first, new Otherwise(second, third));
     Arrow firstPair = new Otherwise(new Otherwise(first, second), third);
-    return agree(lastPair, firstPair, LAST_PROBE, true);
+    return agree(lastPair, firstPair, EITHER_PROBE, true);
   }
 
   private boolean isBoxSound(int box) {
