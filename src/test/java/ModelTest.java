@@ -7,7 +7,8 @@ import java.util.List;
  */
 public final class ModelTest {
   private static final int RUNS = 400;
-  private static final int CALLS = 500;
+  // All that an object may be used for; the last one is digest().
+  private static final int CALLS = 512;
   private static final int MOST_WRONG_SHOWN = 20;
 
   private static final String NO_INDEX = "throws.IndexOutOfBoundsException";
@@ -387,75 +388,12 @@ public final class ModelTest {
     }
   }
 
-  // ---- the class, by a method's name
+  // ---- the runs
 
-  private static Object call(Partarrows x, String name, int[] v, boolean is) {
-    try {
-      return callLet(x, name, v, is);
-    } catch (RuntimeException thrown) {
-      return "throws." + thrown.getClass().getSimpleName();
-    }
-  }
-
-  private static Object callLet(Partarrows x, String name, int[] v, boolean is) {
-    switch (name) {
-      case "box": return x.box(v[0], v[1]);
-      case "maybe": return x.maybe(v[0], v[1], is);
-      case "none": return x.none(v[0]);
-      case "copy": return x.copy(v[0], v[1]);
-      case "isThere": return x.isThere(v[0]);
-      case "isEmpty": return x.isEmpty(v[0]);
-      case "number": return x.number(v[0]);
-      case "orElse": return x.orElse(v[0], v[1]);
-      case "areAlike": return x.areAlike(v[0], v[1]);
-      case "visit": return x.visit(v[0]);
-      case "visitElse": return x.visitElse(v[0]);
-      case "map": return x.map(v[0], v[1], v[2]);
-      case "filter": return x.filter(v[0], v[1], v[2]);
-      case "bind": return x.bind(v[0], v[1]);
-      case "orBox": return x.orBox(v[0], v[1]);
-      case "orArrow": return x.orArrow(v[0], v[1], v[2]);
-      case "orAsk": return x.orAsk(v[0], v[1], v[2]);
-      case "plain": return x.plain(v[0], v[1], v[2]);
-      case "copyArrow": return x.copyArrow(v[0], v[1]);
-      case "then": return x.then(v[0], v[1], v[2]);
-      case "otherwise": return x.otherwise(v[0], v[1], v[2]);
-      case "when": return x.when(v[0], v[1], v[2], v[3]);
-      case "mapped": return x.mapped(v[0], v[1], v[2], v[3]);
-      case "power": return x.power(v[0], v[1], v[2]);
-      case "lay": return x.lay(v[0], v[1]);
-      case "lift": return x.lift(v[0]);
-      case "ask": return x.ask(v[0], v[1]);
-      case "askInto": return x.askInto(v[0], v[1], v[2]);
-      case "trace": return x.trace();
-      case "traced": return x.traced();
-      case "parts": return x.parts(v[0]);
-      case "deep": return x.deep(v[0]);
-      case "text": return x.text(v[0]);
-      case "domain": return x.domain(v[0], v[1], v[2]);
-      case "areSame": return x.areSame(v[0], v[1], v[2], v[3], is);
-      case "isUnit": return x.isUnit(v[0], v[1]);
-      case "isJoined": return x.isJoined(v[0], v[1], v[2], v[3]);
-      case "isMapped": return x.isMapped(v[0], v[1], v[2], v[3], v[4]);
-      case "house": return x.house(v[0]);
-      case "knock": return x.knock();
-      case "isSound": return x.isSound();
-      default: return x.digest();
-    }
-  }
-
-  // ---- the runs: a method, and of each of its arguments what it stands for
-
-  // B a box or an arrow, K a key, M a map, T a test, P a kind of arrow, W a power, L how many, H what, N a number
-  private static final String[] METHODS = {
-    "box BN", "maybe BN", "none B", "copy BB", "isThere B", "isEmpty B", "number B", "orElse BN",
-    "areAlike BB", "visit B", "visitElse B", "map BMN", "filter BTN", "bind BB", "orBox BB",
-    "orArrow BBN", "orAsk BBN", "plain BPN", "copyArrow BB", "then BBB", "otherwise BBB",
-    "when BTNB", "mapped BBMN", "power BBW", "lay KN", "lift K", "ask BN", "askInto BBN", "trace ",
-    "traced ", "parts B", "deep B", "text B", "domain BNL", "areSame BBNL", "isUnit BN",
-    "isJoined BBBN", "isMapped BMNMN", "house H", "knock ", "isSound ", "digest ",
-    "plain BPN", "plain BPN", "then BBB", "otherwise BBB", "when BTNB", "mapped BBMN", "lay KN",
-    "box BN", "ask BN", "askInto BBN", "areSame BBNL", "digest ",
+  // The methods that are drawn more often than the others.
+  private static final String[] OFTEN = {
+    "plain", "plain", "then", "otherwise", "when", "mapped", "lay", "box", "ask", "askInto", "areSame",
+    "digest",
   };
 
   private static final int[] EDGES = {
@@ -479,18 +417,17 @@ public final class ModelTest {
     return sort == 0 ? draw(2147483647) * 2 : sort < 3 ? EDGES[draw(EDGES.length)] : draw(22) - 8;
   }
 
+  private static Face.Row drawRow() {
+    int drawn = draw(Face.ROWS.length + OFTEN.length);
+    return drawn < Face.ROWS.length ? Face.ROWS[drawn] : Face.row(OFTEN[drawn - Face.ROWS.length]);
+  }
+
   private static int drawOf(char sort) {
-    switch (sort) {
-      case 'B':
-      case 'M': return drawPlace(4);
-      case 'K': return drawPlace(10);
-      case 'T': return drawPlace(3);
-      case 'P': return drawPlace(8);
-      case 'W': return draw(3) == 0 ? drawPlace(13) : draw(4);
-      case 'L': return drawPlace(21);
-      case 'H': return drawPlace(6);
-      default: return drawNumber();
-    }
+    if (sort == 'b') return draw(2);
+    int many = Face.many(sort);
+    if (many < 0) return drawNumber();
+    // A power of many is refused mostly, so that few are drawn more often.
+    return sort == 'W' && draw(3) > 0 ? draw(4) : drawPlace(many);
   }
 
   private static void show(int run, List<String> calls, Object got, Object want) {
@@ -505,19 +442,18 @@ public final class ModelTest {
     Model model = new Model();
     List<String> calls = new ArrayList<>();
     int wrongBefore = wrong;
-    for (int i = 0; i < CALLS && wrong == wrongBefore; i++) {
-      String[] method = METHODS[draw(METHODS.length)].split(" ");
-      String sorts = method.length > 1 ? method[1] : "";
+    for (int i = 1; i < CALLS && wrong == wrongBefore; i++) {
+      Face.Row row = drawRow();
       int[] v = new int[5];
-      StringBuilder told = new StringBuilder(method[0] + "(");
-      for (int k = 0; k < sorts.length(); k++) {
-        v[k] = drawOf(sorts.charAt(k));
+      StringBuilder told = new StringBuilder(row.name).append('(');
+      for (int k = 0; k < row.sorts.length(); k++) {
+        v[k] = drawOf(row.sorts.charAt(k));
         told.append(k == 0 ? "" : ", ").append(v[k]);
       }
-      boolean is = draw(2) == 0;
-      calls.add(told + ") " + is);
-      Object want = model.call(method[0], v, is);
-      Object got = call(x, method[0], v, is);
+      calls.add(told.append(')').toString());
+      int whether = row.sorts.indexOf('b');
+      Object want = model.call(row.name, v, whether >= 0 && v[whether] != 0);
+      Object got = Face.call(x, row, v);
       if (!want.equals(got)) show(run, calls, got, want);
     }
     if (wrong == wrongBefore && x.digest() != model.digest()) {
