@@ -235,15 +235,9 @@ public final class AskEdgesTest extends Check {
   }
 
   private static void longestTrace() {
-    Partarrows x = widest();
-    x.plain(0, JUST, MIN);
-    x.when(0, UNLIKE, 0, 0);
-    x.copyArrow(1, 0);
-    x.mapped(0, 0, TIMES, 1);
-    x.then(1, 1, 1);
-    x.then(2, 0, 1);
-    x.then(2, 2, 2);
-    due("then()", x.then(2, 2, 2), 12);
+    Partarrows x = longest();
+    due("parts()", x.parts(2), 12);
+    due("deep()", x.deep(2), 6);
     due("ask()", x.ask(2, MIN), "" + MIN);
     String at = ":" + MIN + " ";
     String three = "t2" + at + "a7" + at + "m1" + at + "t2" + at + "a7" + at + "t2" + at + "a7" + at;
@@ -281,6 +275,17 @@ public final class AskEdgesTest extends Check {
       x.plain(1, HALF, 0);
       due("domain() of HALF from MAX", x.domain(1, MAX, many), 0);
       due("domain() of HALF from MAX - 1", x.domain(1, MAX - 1, many), Math.min(many, 1));
+    }
+  }
+
+  /** The number that comes behind MAX, if it goes round, is MIN, which alone has an answer. */
+  private static void domainGoesNotRound() {
+    Partarrows x = new Partarrows();
+    x.plain(0, BELOW, MIN + 1);
+    due("domain() at MIN", x.domain(0, MIN, 20), 1);
+    for (int many = 0; many <= 20; many++) {
+      due("domain() of " + many + " from MAX", x.domain(0, MAX, many), 0);
+      due("domain() of " + many + " from MAX - 5", x.domain(0, MAX - 5, many), 0);
     }
   }
 
@@ -353,6 +358,33 @@ public final class AskEdgesTest extends Check {
     x.plain(3, JUST, MIN);
     due("areSame() of MIN and none", x.areSame(3, 1, 0, 1, false), false);
     due("areSame() of MIN and MIN", x.areSame(3, 0, MIN, 1, false), true);
+  }
+
+  /** The number that comes behind MAX, if it goes round, is MIN, where alone they are unlike. */
+  private static void areSameGoesNotRound() {
+    Partarrows x = new Partarrows();
+    x.when(1, UNLIKE, MIN, 0);
+    due("areSame() at MIN", x.areSame(0, 1, MIN, 1, false), false);
+    for (int many = 0; many <= 20; many++) {
+      due("areSame() from MAX", x.areSame(0, 1, MAX, many, false), true);
+      due("areSame() from MAX - 5", x.areSame(0, 1, MAX - 5, many, false), true);
+    }
+  }
+
+  /** Two that leave the same, but answer with other numbers. */
+  private static void areSameOfMarksAlone() {
+    Partarrows x = new Partarrows();
+    x.plain(0, JUST, 3);
+    x.plain(1, JUST, 4);
+    x.plain(2, BELOW, 5);
+    x.plain(3, BELOW, 6);
+    for (boolean isTraced : new boolean[] {false, true}) {
+      due("areSame() of JUST 3 and JUST 4", x.areSame(0, 1, 0, 1, isTraced), false);
+      due("areSame() of BELOW 5 and BELOW 6", x.areSame(2, 3, 5, 1, isTraced), false);
+      due("areSame() of BELOW 6 and BELOW 5", x.areSame(3, 2, 5, 1, isTraced), false);
+      due("areSame() of them where both are so", x.areSame(2, 3, 4, 1, isTraced), true);
+      due("areSame() of them where none is so", x.areSame(2, 3, 6, 1, isTraced), true);
+    }
   }
 
   /** Two arrows that answer alike; whether they leave the same. */
@@ -525,11 +557,14 @@ public final class AskEdgesTest extends Check {
     test("Promise 35: of no numbers", AskEdgesTest::domainOfNone);
     test("Promise 35: of the numbers from low on, so many", AskEdgesTest::domainOfMany);
     test("Promise 35: those above 2147483647 are left out", AskEdgesTest::domainAboveAll);
+    test("Promise 35: left out, and not gone round", AskEdgesTest::domainGoesNotRound);
     test("Promise 35: of how many it has an answer", AskEdgesTest::domainOfTable);
     test("Promise 35: TRACE stays", AskEdgesTest::domainStays);
     test("Promise 36: with no numbers", AskEdgesTest::areSameOfNone);
     test("Promise 36: with each of these numbers", AskEdgesTest::areSameUpTo);
     test("Promise 36: those above 2147483647 are left out", AskEdgesTest::areSameAboveAll);
+    test("Promise 36: left out, and not gone round", AskEdgesTest::areSameGoesNotRound);
+    test("Promise 36: ALIKE answers, also where MARKS are held", AskEdgesTest::areSameOfMarksAlone);
     test("Promise 36: both have ALIKE answers", AskEdgesTest::areSameWithoutAnswers);
     test("Promise 36: and the same MARKS", AskEdgesTest::areSameTraced);
     test("Promise 36: in the same sequence", AskEdgesTest::areSameInSequence);

@@ -355,6 +355,26 @@ public final class BoxEdgesTest extends Check {
     due("house(3)", x.house(3), MAX - 1);
   }
 
+  /** A full one among empty ones, and an empty one among full ones, in each place. */
+  private static void visitOfThatBox() {
+    for (int box = 0; box < 4; box++) {
+      for (int other = 0; other < 4; other++) {
+        Partarrows x = new Partarrows();
+        x.box(box, 40 + box);
+        due("visit() of " + other, x.visit(other), other == box ? 1 : 0);
+        due("house(3)", x.house(3), other == box ? 40 + box : 0);
+        due("visitElse() of " + other, x.visitElse(other), other == box ? 1 : 0);
+        due("house(3)", x.house(3), other == box ? 40 + box : -1);
+        for (int full = 0; full < 4; full++) x.box(full, 50 + full);
+        x.none(box);
+        x.visit(other);
+        due("house(3) behind visit()", x.house(3), other == box ? 40 + box : 50 + other);
+        x.visitElse(other);
+        due("house(3) behind visitElse()", x.house(3), other == box ? 39 + box : 50 + other);
+      }
+    }
+  }
+
   public static void main(String[] args) {
     test("Promise 1: creates four EMPTY BOXES", BoxEdgesTest::fourEmptyBoxes);
     test("Promise 1: four ARROWS that are UNIT", BoxEdgesTest::fourUnits);
@@ -384,6 +404,7 @@ public final class BoxEdgesTest extends Check {
     test("Promise 10: whether both are ALIKE", BoxEdgesTest::areAlikeItself);
     test("Promise 11: VISITED becomes that", BoxEdgesTest::visitOfFull);
     test("Promise 11: if a BOX has a NUMBER, otherwise 0", BoxEdgesTest::visitOfEmpty);
+    test("Promises 11 and 12: that BOX, and no other one", BoxEdgesTest::visitOfThatBox);
     test("Promise 12: VISITED becomes that", BoxEdgesTest::visitElseOfFull);
     test("Promise 12: otherwise it becomes 1 less", BoxEdgesTest::visitElseOfEmpty);
     test("Promise 12: from -2147483648 it goes to 2147483647", BoxEdgesTest::visitElseGoesRound);

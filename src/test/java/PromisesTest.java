@@ -1,4 +1,4 @@
-/** A test of each promise of the document: ordinary inputs, the edges, and wrong inputs. */
+/** A test of each promise of the document with ordinary inputs; ThrowsTest has the wrong ones. */
 public final class PromisesTest extends Check {
   private static void promise1() {
     Partarrows x = new Partarrows();
@@ -624,15 +624,6 @@ public final class PromisesTest extends Check {
     dueLook(x, "text()", "(add-3;[1,9](half|just0{2,5}))", it -> it.text(2));
     dueLook(x, "parts()", 3, it -> it.parts(2));
     dueLook(x, "deep()", 5, it -> it.deep(2));
-    x.plain(0, HALF, 0);
-    x.when(0, IS_BELOW, 9, 0);
-    x.plain(1, JUST, 0);
-    x.mapped(1, 1, TURN, 5);
-    x.otherwise(0, 0, 1);
-    x.plain(1, ADD, -3);
-    x.then(2, 1, 0);
-    dueLook(x, "text() of the document", "(add-3;([1,9]half|just0{2,5}))", it -> it.text(2));
-    dueLook(x, "deep() of that", 4, it -> it.deep(2));
     x.plain(3, OVER, MIN);
     x.mapped(3, 3, HALVE, MAX);
     dueLook(x, "text() of great numbers", "over-2147483648{3,2147483647}", it -> it.text(3));
@@ -735,8 +726,8 @@ public final class PromisesTest extends Check {
   }
 
   private static void promise39() {
-    Partarrows x = used();
     for (int number : new int[] {0, 5, 6, -1, MIN, MAX}) {
+      Partarrows x = used();
       x.box(0, number);
       for (int map = 0; map < 4; map++) {
         for (int other = 0; other < 4; other++) {

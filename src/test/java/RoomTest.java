@@ -2,58 +2,54 @@ import com.sun.management.ThreadMXBean;
 import java.lang.management.ManagementFactory;
 
 /** All calls of one run live in one room, so the dearest calls may make few objects only. */
-public final class RoomTest {
-  // 1171 objects a call is what 512 calls may share; the bytes stand for far fewer than that.
+public final class RoomTest extends Check {
+  // 512 calls share the room: about 1170 objects and 14000 fields and elements each, of a byte or more.
   private static final long MOST_BYTES_A_CALL = 12_000;
-  private static final int CALLS = 512;
+  // With those that make the object, not more than 512.
+  private static final int CALLS = 480;
 
-  private static int wrong = 0;
-
-  private interface Call {
-    Object run();
-  }
-
-  private static Partarrows widest() {
-    Partarrows x = new Partarrows();
-    x.plain(0, 2, Integer.MIN_VALUE);
-    x.when(0, 2, Integer.MIN_VALUE, 0);
-    x.mapped(0, 0, 2, Integer.MIN_VALUE);
-    x.otherwise(0, 0, 0);
-    x.otherwise(0, 0, 0);
-    x.otherwise(0, 0, 0);
-    x.copyArrow(1, 0);
-    x.copyArrow(2, 0);
-    x.copyArrow(3, 0);
-    x.ask(0, -7);
+  /** The longest texts and traces in each place. */
+  private static Partarrows dearest() {
+    Partarrows x = longest();
+    x.copyArrow(0, 2);
+    x.copyArrow(1, 2);
+    x.copyArrow(3, 2);
+    for (int box = 0; box < 4; box++) x.box(box, MIN);
+    for (int key = 0; key < 10; key++) x.lay(key, MIN);
+    x.ask(0, MIN);
     return x;
   }
 
-  private static void isCheap(String name, Call call) {
+  private static long bytesOf(Call call) {
     ThreadMXBean bean = (ThreadMXBean) ManagementFactory.getThreadMXBean();
     long thread = Thread.currentThread().getId();
-    call.run();
+    Partarrows x = dearest();
     long before = bean.getThreadAllocatedBytes(thread);
     for (int i = 0; i < CALLS; i++) {
-      call.run();
+      call.of(x);
     }
-    long bytes = (bean.getThreadAllocatedBytes(thread) - before) / CALLS;
-    if (bytes > MOST_BYTES_A_CALL) {
-      wrong++;
-      System.out.println(name + " makes " + bytes + " bytes a call, let are " + MOST_BYTES_A_CALL);
-    }
+    return (bean.getThreadAllocatedBytes(thread) - before) / CALLS;
+  }
+
+  private static void isCheap(String name, Call call) {
+    test("the room of " + name, () -> {
+      // Once ahead, as what the machine itself makes at first is not the class's.
+      bytesOf(call);
+      long bytes = bytesOf(call);
+      due("whether " + bytes + " bytes a call are let", bytes <= MOST_BYTES_A_CALL, true);
+    });
   }
 
   public static void main(String[] args) {
-    Partarrows x = widest();
-    isCheap("digest()", () -> x.digest());
-    isCheap("isSound()", () -> x.isSound());
-    isCheap("text()", () -> x.text(0));
-    isCheap("trace()", () -> x.trace());
-    isCheap("ask()", () -> x.ask(0, -7));
-    isCheap("domain()", () -> x.domain(0, -7, 20));
-    isCheap("areSame()", () -> x.areSame(0, 1, -7, 20, true));
-    isCheap("power()", () -> x.power(0, 1, 12));
-    System.out.println(wrong == 0 ? "all calls are as cheap as due" : wrong + " calls are too dear");
-    if (wrong != 0) System.exit(1);
+    isCheap("digest()", x -> x.digest());
+    isCheap("isSound()", x -> x.isSound());
+    isCheap("isJoined()", x -> x.isJoined(0, 1, 2, MIN));
+    isCheap("text()", x -> x.text(0));
+    isCheap("trace()", x -> x.trace());
+    isCheap("ask()", x -> x.ask(0, MIN));
+    isCheap("domain()", x -> x.domain(0, MIN, 20));
+    isCheap("areSame()", x -> x.areSame(0, 1, MIN, 20, true));
+    isCheap("power()", x -> x.power(0, 1, 12));
+    end();
   }
 }

@@ -314,11 +314,11 @@ public final class WholeEdgesTest extends Check {
     due("house(3) behind 511 of visitElse()", z.house(3), 1 - CALLS);
   }
 
-  /** Arrows that are made of what was made, as often as may be. */
+  /** Arrows that are made of others, as often as may be. */
   private static void madeOfMany() {
     Partarrows x = new Partarrows();
     x.plain(0, ADD, 1);
-    for (int call = 2; call <= CALLS - 3; call += 3) {
+    for (int call = 2; call <= CALLS - 6; call += 3) {
       due("then()", x.then(1, 0, 0), 2);
       due("otherwise()", x.otherwise(2, 1, 0), 3);
       due("copyArrow()", x.copyArrow(3, 2), 3);
